@@ -1,0 +1,29 @@
+/** Makes objects whose field is read from a text. */
+final class Sown {
+    static final int SHEET = 3;
+    static final int INTS = 2;
+
+    private Sown() {
+    }
+
+    static ToothField sown(String text) {
+        ToothField x = new ToothField();
+        int men = read(x, text);
+        if (men < 0) {
+            throw new IllegalStateException(text + " was not taken: " + men);
+        }
+        return x;
+    }
+
+    static int read(ToothField x, String text) {
+        x.sheet(SHEET, INTS, text.length());
+        write(x, SHEET, 0, text);
+        return x.field(SHEET, INTS, 0, text.length());
+    }
+
+    static void write(ToothField x, int sheet, int from, String text) {
+        for (int i = 0; i < text.length(); i++) {
+            x.put(sheet, from + i, text.charAt(i));
+        }
+    }
+}
