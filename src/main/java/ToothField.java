@@ -4,7 +4,7 @@ public final class ToothField {
     public static final long LOST = Long.MIN_VALUE;
 
     private static final int NO_FAULT = 0, FAULT_NULL = 1, FAULT_CAST = 2, FAULT_INDEX = 3, FAULT_SIZE = 4;
-    private static final int BELOW_FAULTS = -10, BELOW_TEXTS = -100;
+    private static final int ALLOWED = 0, BELOW_FAULTS = -10, BELOW_TEXTS = -100;
 
     private static final int KIND_MAN = 0, KIND_LAME = 1, KIND_ARCHER = 2, ALL_KINDS = 3;
     private static final int LAW_ANY = 0, LAW_OTHER_ALONE = 1, ALL_LAWS = 3;
@@ -58,16 +58,9 @@ public final class ToothField {
     // ---- 1 the field
 
     public int field(int sheet, int lane, int i, int n) {
-        lastFault = NO_FAULT;
-        if (!isBelow(sheet, ALL_SHEETS)) {
-            return UNKNOWN;
-        }
-        if (!isBelow(lane, ALL_LANES)) {
-            return OUTSIDE;
-        }
-        int wrong = sheets[sheet].faultOfCells(lane, i, n);
-        if (wrong != NO_FAULT) {
-            return faulted(wrong);
+        int wrong = wrongCells(sheet, lane, i, n);
+        if (wrong != ALLOWED) {
+            return wrong;
         }
         // A TEXT that is not taken changes nothing: it is read into the spare host.
         if (!reader.readInto(spare, sheets[sheet], i, n)) {
@@ -128,11 +121,9 @@ public final class ToothField {
     }
 
     public int stone(int m, int minute) {
-        if (!host.has(m)) {
-            return UNKNOWN;
-        }
-        if (!isBelow(minute, NOON)) {
-            return OUTSIDE;
+        int wrong = wrongManOrMinute(m, minute);
+        if (wrong != ALLOWED) {
+            return wrong;
         }
         if (!stones.add(m, minute)) {
             return FULL;
@@ -161,22 +152,18 @@ public final class ToothField {
     }
 
     public int foe(int m, int minute) {
-        if (!host.has(m)) {
-            return UNKNOWN;
-        }
-        if (!isBelow(minute, NOON)) {
-            return OUTSIDE;
+        int wrong = wrongManOrMinute(m, minute);
+        if (wrong != ALLOWED) {
+            return wrong;
         }
         fight.run(host, stones, lawNow, minute, NONE);
         return fight.foeOf[m];
     }
 
     public int armour(int m, int minute) {
-        if (!host.has(m)) {
-            return UNKNOWN;
-        }
-        if (!isBelow(minute, NOON)) {
-            return OUTSIDE;
+        int wrong = wrongManOrMinute(m, minute);
+        if (wrong != ALLOWED) {
+            return wrong;
         }
         fight.run(host, stones, lawNow, minute, NONE);
         return fight.armourOf[m];
@@ -220,11 +207,9 @@ public final class ToothField {
     }
 
     public int save(int m, int minute) {
-        if (!host.has(m)) {
-            return UNKNOWN;
-        }
-        if (!isBelow(minute, NOON)) {
-            return OUTSIDE;
+        int wrong = wrongManOrMinute(m, minute);
+        if (wrong != ALLOWED) {
+            return wrong;
         }
         int saving = 0;
         for (int on = 0; on < host.count; on++) {
@@ -306,11 +291,9 @@ public final class ToothField {
     // ---- 4 what was seen
 
     public int reading(int m, int minute, boolean stood) {
-        if (!host.has(m)) {
-            return UNKNOWN;
-        }
-        if (!isBelow(minute, NOON)) {
-            return OUTSIDE;
+        int wrong = wrongManOrMinute(m, minute);
+        if (wrong != ALLOWED) {
+            return wrong;
         }
         if (!readings.add(m, minute, stood)) {
             return FULL;
@@ -386,7 +369,7 @@ public final class ToothField {
             }
         }
         // The lower number is a power of two, so halving alone brings least terms.
-        while (lower > 1 && (upper & 1) == 0) {
+        for (int s = 0; s < stones.count && (upper & 1) == 0; s++) {
             upper >>= 1;
             lower >>= 1;
         }
@@ -411,16 +394,9 @@ public final class ToothField {
     }
 
     public int row(int sheet, int lane, int i, int n) {
-        lastFault = NO_FAULT;
-        if (!isBelow(sheet, ALL_SHEETS)) {
-            return UNKNOWN;
-        }
-        if (!isBelow(lane, ALL_LANES)) {
-            return OUTSIDE;
-        }
-        int wrong = sheets[sheet].faultOfCells(lane, i, n);
-        if (wrong != NO_FAULT) {
-            return faulted(wrong);
+        int wrong = wrongCells(sheet, lane, i, n);
+        if (wrong != ALLOWED) {
+            return wrong;
         }
         if (!sown) {
             return STATE;
@@ -587,6 +563,27 @@ public final class ToothField {
 
     private static boolean isIn(int set, int k) {
         return (set >> k & 1) == 1;
+    }
+
+    /** The answer to a man or a minute that is not there. */
+    private int wrongManOrMinute(int m, int minute) {
+        if (!host.has(m)) {
+            return UNKNOWN;
+        }
+        return isBelow(minute, NOON) ? ALLOWED : OUTSIDE;
+    }
+
+    /** The answer to n cells of a sheet that can't be taken as a row of a lane. */
+    private int wrongCells(int k, int lane, int i, int n) {
+        lastFault = NO_FAULT;
+        if (!isBelow(k, ALL_SHEETS)) {
+            return UNKNOWN;
+        }
+        if (!isBelow(lane, ALL_LANES)) {
+            return OUTSIDE;
+        }
+        int wrong = sheets[k].faultOfCells(lane, i, n);
+        return wrong == NO_FAULT ? ALLOWED : faulted(wrong);
     }
 
     private int faulted(int wrong) {

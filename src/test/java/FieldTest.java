@@ -95,17 +95,24 @@ final class FieldTest {
     private void fieldFirstFaults() {
         firstFault("", 0);
         firstFault("Z12;..", 0);
+        firstFault("{12;..", 0);
+        firstFault("y12;..", 0);
         firstFault("z02;..", 1);
         firstFault("z52;..", 1);
         firstFault("z11;.", 2);
         firstFault("z16;......", 2);
         firstFault("z12.", 3);
+        firstFault("z12:..", 3);
+        firstFault("z12<..", 3);
+        firstFault("z12;-.", 4);
+        firstFault("z12;/.", 4);
         firstFault("z12;.;", 5);
         firstFault("z12;...", 6);
         firstFault("z12;..;", 6);
         firstFault("z22;..", 6);
         firstFault("z22;...", 6);
         firstFault("z12;b011.", 4);
+        firstFault("z12;011.", 4);
         firstFault("z12;m211.", 5);
         firstFault("z12;m/11.", 5);
         firstFault("z12;m001.", 6);

@@ -113,6 +113,13 @@ final class SeenTest {
         due.is("his own by 0 and 2", x.laws(), 5);
         x.reading(1, 5, true);
         due.is("by none", x.laws(), 0);
+        Sown.read(x, "z12;m055m034");
+        x.stone(0, 29);
+        x.reading(1, 29, false);
+        due.is("in the last minute", x.laws(), 5);
+        due.is("in the last minute", x.kinds(0), 1);
+        x.undo(1);
+        due.is("in the last minute", x.whence(29), 1);
     }
 
     private void kinds() {
@@ -166,6 +173,9 @@ final class SeenTest {
         oddsAre(x, 0, 3, 4);
         oddsAre(x, 1, 1, 64);
         due.is("stones stay", x.many(2), 6);
+        x.undo(6);
+        x.stone(0, 29);
+        oddsAre(x, 1, 1, 2);
     }
 
     private void coin() {
@@ -237,10 +247,18 @@ final class SeenTest {
         Sown.read(x, "z12;m011m011");
         x.law(1);
         due.is("by the law", x.row(0, 0, 0, 30), 3);
-        Sown.read(x, "z12;m019m013");
-        for (int i = 0; i < 29; i++) {
-            x.put(0, i, 0);
+        Sown.read(x, "z13;m011.l021");
+        due.is("out of reach", x.row(0, 0, 0, 30), 3);
+        Sown.read(x, "z13;m011m011a111");
+        for (int i = 0; i < 30; i++) {
+            x.put(0, i, i == 29 ? 0 : 3);
         }
-        due.is("from minute 0 on", x.row(0, 0, 0, 1), 1);
+        due.is("no man", x.row(0, 0, 0, 30), -1);
+        Sown.read(x, "z25;m011m011..m011;.....");
+        for (int i = 0; i < 30; i++) {
+            x.put(0, i, i == 29 ? 0 : 2);
+        }
+        due.is("before the last minute", x.row(0, 0, 0, 29), 7);
+        due.is("in the last minute", x.row(0, 0, 0, 30), 5);
     }
 }

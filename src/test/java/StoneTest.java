@@ -21,6 +21,8 @@ final class StoneTest {
         t.worthOfAGuard();
         t.game();
         t.gameOfThree();
+        t.gameThatIsAnswered();
+        t.gameTillNoon();
         t.nothingChanges();
         t.due.end();
     }
@@ -84,6 +86,12 @@ final class StoneTest {
         }
         due.is("above six, to none", x.cull(0), 2);
         due.is("above six, to one", x.cull(1), 0);
+        Sown.read(x, PAIR);
+        x.stone(0, 29);
+        due.is("one falls in the last minute", x.cull(1), 0);
+        Sown.read(x, "z12;m055m055");
+        x.stone(0, 0);
+        due.is("in minute 0, before he falls", x.cull(0), 2);
         ToothField y = Sown.sown("z12;m011.");
         due.is("not by all", y.cull(0), -9);
         ToothField z = Sown.sown("z25;m011m011.m011m011;.....");
@@ -139,6 +147,9 @@ final class StoneTest {
         ToothField v = Sown.sown("z13;..m046");
         v.stone(0, 0);
         due.is("once with 5", v.sow(0), 0);
+        ToothField u = Sown.sown("z13;..m035");
+        u.stone(0, 28);
+        due.is("in the last minute", u.sow(0), 1);
     }
 
     /** By law 1 only 7 turns on the ninth, sown beside him in cell 9; by law 0 he turns on a lesser number. */
@@ -168,6 +179,10 @@ final class StoneTest {
         x.stone(0, 0);
         due.is("his stone does nothing", x.worth(0), 101);
         due.is("he harms none", x.worth(1), 100);
+        Sown.read(x, "z13;m055m134m011");
+        x.stone(0, 29);
+        due.is("in the last minute", x.worth(2), 100);
+        due.is("in the last minute", x.worth(0), 101);
     }
 
     /** 1 holds up the archer and fells him; without 1 the archer fells 2, then 3. */
@@ -207,6 +222,28 @@ final class StoneTest {
             x.stone(1, 29);
         }
         due.is("behind six", x.game(1), 1);
+    }
+
+    /**
+     * From minute 6 on the archer 1 fells all of the other dragon, one a minute; a stone on 0, who is of his own, fells
+     * him just before. The first one's best is to fell one more ahead of that.
+     */
+    private void gameThatIsAnswered() {
+        ToothField x = Sown.sown("z15;m191a111m011m011m011");
+        x.law(2);
+        x.stone(1, 6);
+        x.stone(1, 7);
+        x.stone(1, 8);
+        due.is("left, if none throws", x.left(), 3);
+        due.is("three are left", x.game(0), 3);
+        due.is("by 1", x.game(1), 1);
+    }
+
+    private void gameTillNoon() {
+        ToothField x = Sown.sown("z15;m055.m155m155.");
+        x.stone(1, 29);
+        due.is("two are left", x.game(0), 2);
+        due.is("by each", x.game(1), 0);
     }
 
     private void nothingChanges() {
