@@ -11,7 +11,8 @@ final class LanguageTest {
     private static final String[] RULED_OUT = {
         "\\b(throw|throws|try|catch|synchronized|assert|import|package|volatile|native|transient)\\b", "->", "::",
         "\\bstatic\\s*\\{", "Exact\\b", "\\b(System\\.(?!arraycopy)\\w+|Thread|Object|Random|Exception|Error)\\b",
-        "\\b(hashCode|toString|equals|getClass)\\b", "\\bwhile\\s*\\(\\s*true", "\\bfor\\s*\\(\\s*;", "\\bprotected\\b"};
+        "\\b(hashCode|toString|equals|getClass)\\b", "\\bwhile\\s*\\(\\s*true", "\\bfor\\s*\\(\\s*;",
+        "\\bprotected\\b"};
 
     private LanguageTest() {
     }

@@ -10,11 +10,12 @@ final class ModelTest {
 
     /** A call and what its numbers stand for: m man, t minute, w what, k sheet, l lane, i place, n length, v value. */
     private static final String[] CHOICES = {
-        "ofMan m w", "far m m", "sign v", "law w", "law w", "stone m t", "stone m t", "stone m t", "stone m t", "undo w",
-        "stands t", "foe m t", "foe m t", "armour m t", "left", "falls m", "cast t w", "save m t", "cull m", "sow w",
-        "worth m", "game w", "reading m t b", "reading m t b", "back w", "whence t", "laws", "kinds m", "odds m w",
-        "coin w", "row k l i n", "row k l i n", "sheet k l n", "lose k", "put k i v", "put k i v", "put k i m",
-        "cell k i l", "copy k i k i n", "tell m", "swear m", "as m w", "trace", "fault", "many w", "field k l i n"};
+        "ofMan m w", "far m m", "sign v", "law w", "law w", "stone m t", "stone m t", "stone m t", "stone m t",
+        "undo w", "stands t", "foe m t", "foe m t", "armour m t", "left", "falls m", "cast t w", "save m t", "cull m",
+        "sow w", "worth m", "game w", "reading m t b", "reading m t b", "back w", "whence t", "laws", "kinds m",
+        "odds m w", "coin w", "row k l i n", "row k l i n", "sheet k l n", "lose k", "put k i v", "put k i v",
+        "put k i m", "cell k i l", "copy k i k i n", "tell m", "swear m", "as m w", "trace", "fault", "many w",
+        "field k l i n"};
 
     private final Random random = new Random(20261118);
     private final Due due = new Due();

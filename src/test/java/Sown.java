@@ -6,11 +6,17 @@ final class Sown {
     private Sown() {
     }
 
-    static ToothField sown(String text) {
+    /** The calls, as "stone 0 29", come behind the text; none of them may be refused. */
+    static ToothField sown(String text, String... calls) {
         ToothField x = new ToothField();
         int men = read(x, text);
         if (men < 0) {
             throw new IllegalStateException(text + " was not taken: " + men);
+        }
+        for (String call : calls) {
+            if (Calls.answer(x, call) < 0) {
+                throw new IllegalStateException(call + " was refused on " + text);
+            }
         }
         return x;
     }
