@@ -35,6 +35,11 @@ final class Document {
         return Files.isReadable(PLACE);
     }
 
+    /** What the terms (part 0), or a promise (by its number), say. */
+    String part(int part) {
+        return said[part];
+    }
+
     /** Whether the terms (part 0), or a promise (by its number), say this; it counts as quoted then. */
     boolean says(int part, String quote) {
         int at = said[part].indexOf(quote);

@@ -8,7 +8,8 @@ import java.util.List;
 
 /** The public face: the document's members, and no other that is not private. */
 final class FaceTest {
-    private static final String[] METHODS = {
+    /** In the document's order: the first is promise 2's. */
+    static final String[] METHODS = {
         "int field(int,int,int,int)", "int sign(int)", "int ofMan(int,int)", "int far(int,int)", "int law(int)",
         "int stone(int,int)", "int undo(int)", "int stands(int)", "int foe(int,int)", "int armour(int,int)",
         "int left()", "int falls(int)", "int cast(int,int)", "int save(int,int)", "int cull(int)", "int sow(int)",
