@@ -22,6 +22,7 @@ public final class ToothField {
     private static final int WORTH_OF_NOTHING = 100, TOLD_OF_LAME = 100, SWORN_OF_ARCHER = 20;
     private static final int BODY_MAN = 1, BODY_LAME = 2, BODY_ARCHER = 3, BODY_LENT = 4, BODY_OWN = 5;
 
+    private static final int CODE_Z = 122, CODE_SEMICOLON = 59, CODE_DOT = 46, CODE_ZERO = 48;
     private static final int[] LETTERS = {109, 108, 97};
 
     private final Sheet[] sheets;
@@ -733,7 +734,7 @@ public final class ToothField {
             sheet = from;
             at = start;
             end = start + n;
-            if (take(122, 122) < 0) {
+            if (take(CODE_Z, CODE_Z) < 0) {
                 return false;
             }
             int high = digit(1, MOST_HIGH);
@@ -754,11 +755,11 @@ public final class ToothField {
         }
 
         private boolean readLine(Host into, int firstCell, int wide) {
-            if (take(59, 59) < 0) {
+            if (take(CODE_SEMICOLON, CODE_SEMICOLON) < 0) {
                 return false;
             }
             for (int c = 0; c < wide; c++) {
-                if (take(46, 46) < 0 && !readMan(into, firstCell + c)) {
+                if (take(CODE_DOT, CODE_DOT) < 0 && !readMan(into, firstCell + c)) {
                     return false;
                 }
             }
@@ -796,8 +797,8 @@ public final class ToothField {
         }
 
         private int digit(int least, int most) {
-            int code = take(48 + least, 48 + most);
-            return code < 0 ? NONE : code - 48;
+            int code = take(CODE_ZERO + least, CODE_ZERO + most);
+            return code < 0 ? NONE : code - CODE_ZERO;
         }
 
         private int take(int least, int most) {

@@ -42,6 +42,9 @@ final class LanguageTest {
                 to++;
             }
             due.holds("at most sixty lines: " + lines.get(from).trim(), to - from < 60);
+            boolean isConstructor = lines.get(from).matches(" +(public|private) \\w+\\(.*");
+            due.holds("makes nothing, so that no run fills the room: " + lines.get(from).trim(),
+                isConstructor || String.join("\n", lines.subList(from, to)).indexOf(" new ") < 0);
             due.holds("at most seven parameters: " + lines.get(from).trim(), m.group(3).split(",").length <= 7);
         }
     }
